@@ -15,7 +15,8 @@ public final class EdgesTest {
         {"pl00;pt52;"},
         {"pb00;pl00;pt40;pe03;pw90;pg00;", "a012345,50,30:196;a02,0,0:444;a2,100,0:000;"},
         {"ps90;pg02;pe05;pw80;", "a013,20,40:083;a0123,33,33:950;a3,0,100:123;l2;c80;"},
-        {"pe04;pe02;pe09;pe01;ps00;pb00;", "a12345,10,20:057;a0,5,5:902;a45,50,0:128;l3;", "a01,1,2:345;a5,0,0:000;c0;"}};
+        {"pe04;pe02;pe09;pe01;ps00;pb00;", "a12345,10,20:057;a0,5,5:902;a45,50,0:128;l3;",
+            "a01,1,2:345;a5,0,0:000;c0;"}};
 
     private EdgesTest() {
     }
@@ -56,7 +57,8 @@ public final class EdgesTest {
                 boxed[i] = from[rest % from.length];
                 shown.append(' ').append(boxed[i]);
             }
-            Due.due(shown.toString(), ((Number) twin.invoke(y, boxed)).longValue(), ((Number) m.invoke(x, boxed)).longValue());
+            long want = ((Number) twin.invoke(y, boxed)).longValue();
+            Due.due(shown.toString(), want, ((Number) m.invoke(x, boxed)).longValue());
             if (c % 300 == 299 || c == combinations - 1) {
                 for (int what = 0; what <= 16; what++) {
                     Due.due(m.getName() + ", then count(" + what + ")", y.count(what), x.count(what));

@@ -94,7 +94,10 @@ public final class ModelTest {
         int c0 = random.nextInt(5) == 0 ? 100 : random.nextInt(101);
         int c1 = random.nextInt(101 - c0);
         text.append(',').append(c0).append(',').append(c1).append(':');
-        return text.append(random.nextInt(10)).append(random.nextInt(10)).append(random.nextInt(10)).append(';').toString();
+        for (int thing = 0; thing < 3; thing++) {
+            text.append(random.nextInt(10));
+        }
+        return text.append(';').toString();
     }
 
     /** A town in which a letter is another, lacks or is one more; or one out of range. */
@@ -136,7 +139,7 @@ public final class ModelTest {
         for (int i = 0; i < out.length; i++) {
             out[i] = random.nextInt(persons + (random.nextInt(8) == 0 ? 2 : 0)) - (random.nextInt(25) == 0 ? 1 : 0);
             if (random.nextInt(200) == 0) {
-                int[] far = {Integer.MIN_VALUE, Integer.MAX_VALUE, -1, 99, 100, 60, 61, 20, 21, 1 << 30, 1 << 31, 255, 256};
+                int[] far = {Integer.MIN_VALUE, Integer.MAX_VALUE, -1, 99, 100, 60, 61, 20, 21, 1 << 30, 255, 256};
                 out[i] = far[random.nextInt(far.length)];
             }
         }

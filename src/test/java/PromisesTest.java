@@ -266,7 +266,8 @@ public final class PromisesTest {
     private static void lawsByHowManyHaveRead() {
         Due.promise("LAWS");
         // of 0 .. 5 who have read, for each law those with which a paper for five, four, two, one is in force
-        int[][] five = {{1, 1, 1, 1, 1, 0}, {1, 0, 0, 0, 0, 0}, {1, 1, 1, 0, 0, 0}, {1, 1, 0, 0, 0, 0}, {1, 1, 1, 1, 1, 1}};
+        int[][] five = {{1, 1, 1, 1, 1, 0}, {1, 0, 0, 0, 0, 0}, {1, 1, 1, 0, 0, 0}, {1, 1, 0, 0, 0, 0},
+            {1, 1, 1, 1, 1, 1}};
         int[][] four = {{1, 1, 1, 1, 0}, {1, 0, 0, 0, 0}, {1, 1, 1, 0, 0}, {1, 1, 0, 0, 0}, {1, 1, 1, 1, 1}};
         int[][] two = {{1, 1, 0}, {1, 0, 0}, {1, 1, 0}, {1, 1, 0}, {1, 1, 1}};
         int[][] one = {{1, 0}, {1, 0}, {1, 0}, {1, 0}, {1, 1}};
