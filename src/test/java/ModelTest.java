@@ -177,8 +177,8 @@ public final class ModelTest {
             return;
         }
         calls++;
-        long want = invoke(model, name, args);
-        long got = invoke(program, name, args);
+        long want = Calls.answer(model, name, args);
+        long got = Calls.answer(program, name, args);
         StringBuilder shown = new StringBuilder(name).append('(');
         for (int i = 0; i < args.length; i++) {
             shown.append(i == 0 ? "" : ", ").append(args[i]);
@@ -189,15 +189,5 @@ public final class ModelTest {
             differs = true;
             System.out.println("behind " + String.join(" ", told));
         }
-    }
-
-    private static long invoke(Object on, String name, int... args) throws Exception {
-        Class<?>[] types = new Class<?>[args.length];
-        Object[] boxed = new Object[args.length];
-        for (int i = 0; i < args.length; i++) {
-            types[i] = int.class;
-            boxed[i] = args[i];
-        }
-        return ((Number) on.getClass().getMethod(name, types).invoke(on, boxed)).longValue();
     }
 }
